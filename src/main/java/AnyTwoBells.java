@@ -713,6 +713,13 @@ public final class AnyTwoBells {
             }
         }
 
+        /** Makes the step at that place skip all that stands behind it so far. */
+        private void skipToEnd(int place) {
+            if (place < length) {
+                withs[place] = length;
+            }
+        }
+
         private void name(int h, int b, int m, int n, int p, int q) {
             names[0] = h;
             names[1] = b;
@@ -840,7 +847,7 @@ public final class AnyTwoBells {
                 return false;
             }
             draft.add(Program.ANSWER, 0);
-            draft.withs[skip] = draft.length;
+            draft.skipToEnd(skip);
             return true;
         }
 

@@ -138,7 +138,9 @@ public final class PromisesTest {
         dueRow(x, 1, "560000000000000000000000");
         due(x.of(102, 20), 0);
         due(x.of(203, 20), 0);
+        due(x.of(201, 20), 0);
         due(x.of(1, 20), 1);
+        due(x.of(100, 20), 1);
         due(x.set(1, 6), 2);
         due(x.set(1, 1), 6);
         due(x.count(2), 1);
@@ -190,6 +192,8 @@ public final class PromisesTest {
         dueRow(x, 0, "1230");
         due(x.count(4), 0, "changes are forgotten");
         due(x.undo(), STATE);
+        due(x.strikes(0, 1, 0, 1), 1, "no more than n");
+        dueRow(x, 0, "2230");
         due(x.strikes(0, 4, 1, 4), 1);
         dueRow(x, 1, "5000");
         due(x.strikes(0, 1, 1, 2), 2);
@@ -212,6 +216,9 @@ public final class PromisesTest {
         due(x.strikes(2, 0, 0, 1), -12, "a TABLE");
         x.row(3, 0, 0);
         due(x.strikes(3, 0, 0, 1), 0, "an empty row");
+        x.row(4, 0, 4);
+        x.keep(4, -1);
+        due(x.strikes(4, 0, 0, 1), 0, "a row that is away again");
     }
 
     private static void promise6() {
@@ -233,6 +240,7 @@ public final class PromisesTest {
         due(x.count(4), 4, "the same number is no change");
         x.set(0, 11);
         due(x.most(1, 1), 4);
+        due(x.most(0, 14), BAD, "below the stroke at HOUR 0");
     }
 
     private static void promise7() {
@@ -280,6 +288,7 @@ public final class PromisesTest {
         for (String text : texts) {
             dueFault(text, -1);
         }
+        dueFault("1?((((((1))))))", -1);
         dueFault("", 0);
         dueFault("h;", 2);
         dueFault("h?", 2);
@@ -372,6 +381,15 @@ public final class PromisesTest {
         dueLaid("h=0?3;h=1?4", "340", "340");
         dueLaid("b?h;h=1?9;2", "292", "012");
         dueLaid("7;8", "77", "77");
+        dueLaid("0|1?0|2;5", "11", "11");
+        dueLaid("(0|2)*3", "33", "33");
+        x = bells(2, 2, 9);
+        for (int v = 1; v < 5; v++) {
+            law(x, v + "");
+            due(x.lay(), 2 * v, "one law behind the other");
+        }
+        x.set(0, 3);
+        dueRow(x, 0, "440");
         dueLaid("9999*9999*9999*9999+9*0?4;5", "44", "44");
         dueLaid("9999*9999*9999<0?4;5", "44", "44");
         dueLaid("9999*9999*99<0?4;5", "55", "55");
@@ -395,6 +413,8 @@ public final class PromisesTest {
         dueRow(x, 1, "13579bdf1357");
         due(x.line(1, 999902), 6);
         dueRow(x, 1, "101010101010");
+        x.set(0, 13);
+        dueRow(x, 1, "1010101010100");
         x.strike(1, 9);
         due(x.line(1, 1000002), BAD);
         due(x.line(1, 1), BAD);
@@ -430,6 +450,8 @@ public final class PromisesTest {
         due(x.count(4), 1, "wrong calls forget nothing");
         due(x.sum(0, 12), 2 + 3 + 7 + 7);
         dueRow(x, 0, "2377");
+        x.set(0, 5);
+        dueRow(x, 0, "23770");
     }
 
     private static void promise13() {
@@ -486,6 +508,10 @@ public final class PromisesTest {
         due(x.tells(0), 1, "one bell alone");
         due(x.tells(1), 0);
         due(x.tells(2), 2);
+        x = struck(2, "00", "00");
+        due(x.tells(0), 3);
+        due(x.tells(1), 0);
+        due(x.tells(2), 1);
         x = struck(5, "01", "00");
         due(x.tells(3), 1, "all of them, if there are fewer");
         x.set(1, 1);
@@ -515,6 +541,10 @@ public final class PromisesTest {
         x.mix(1, 1);
         due(x.gap(0), NOT, "all pairs are mixed");
         due(x.gap(1), NOT);
+        x = struck(2, "0123456789abcdef01234566", "0000000000000000aaaaaaaa");
+        due(x.gap(0), 0, "hours 22 and 23");
+        due(x.tells(1), 22);
+        due(x.tells(2), 23);
         x = struck(2, "00", "11");
         due(x.gap(0), 0);
         due(x.gap(1), NOT);
@@ -528,6 +558,7 @@ public final class PromisesTest {
         due(struck(1, "00").bears(), 0, "not told at all");
         due(struck(2, "12", "21").bears(), 0, "both as a third row");
         due(struck(2, "12", "12").bears(), 1, "one stroke alone is lost");
+        due(struck(2, "21", "21").bears(), 1);
         due(struck(2, "13", "21").bears(), 1);
         due(struck(2, "02", "01").bears(), 1);
         due(struck(3, "12", "12", "21").bears(), 1);
@@ -587,6 +618,7 @@ public final class PromisesTest {
         due(x.alone(0, -1), 3);
         due(x.alone(1, -1), 6);
         due(x.alone(1, 0), 63);
+        due(struck(1, "ff").alone(0, -1), 2);
         due(x.alone(0, 16), BAD);
         due(x.alone(0, -2), BAD);
         due(x.alone(2, 0), BAD);
@@ -731,6 +763,12 @@ public final class PromisesTest {
         x.mix(2, 1);
         x.mix(103, 1);
         dueTable(x, true, 4, "0101", "0101");
+        x.mix(1, 1);
+        x.mix(203, 1);
+        x.mix(3, 1);
+        x.mix(102, 1);
+        due(x.least(-1), 0, "all are mixed");
+        due(x.least(31), 0);
         due(x.least(-2), BAD);
         due(x.least(40), BAD);
         due(x.least(2), BAD);
@@ -759,6 +797,14 @@ public final class PromisesTest {
         x.mix(2, 1);
         x.mix(103, 1);
         dueTable(x, false, 2, "0101");
+        x.mix(1, 1);
+        x.mix(203, 1);
+        x.mix(3, 1);
+        x.mix(102, 1);
+        due(x.greedy(-1), 0, "all are mixed");
+        AnyTwoBells y = bells(3, 2, 2, 2, 2);
+        due(y.least(2), 1);
+        dueTable(y, false, 4, "001", "010", "011");
         due(x.greedy(-2), BAD);
         due(x.greedy(1), BAD);
         due(x.greedy(40), BAD);
@@ -788,6 +834,9 @@ public final class PromisesTest {
         x = struck(2, "01", "00");
         x.mix(1, 1);
         dueAlarm(x, "01");
+        x = bells(5, 1, 1, 1, 5);
+        x.line(2, 10016);
+        dueAlarm(x, "115");
         x = bells(2, 1, 1);
         x.strike(10, 1);
         due(x.alarm(0), NOT);
@@ -890,6 +939,14 @@ public final class PromisesTest {
         }
         due(x.undo(), STATE);
         dueRow(x, 0, "111110000000");
+        for (int k = 39; k >= 0; k--) {
+            due(x.redo(), k);
+        }
+        due(x.redo(), STATE);
+        dueRow(x, 0, "444444444333");
+        while (x.count(4) > 0) {
+            x.undo();
+        }
         x.bell(3, 0);
         x.set(1, 3);
         x.mix(1, 1);
@@ -1074,6 +1131,10 @@ public final class PromisesTest {
         due(x.element(0, 59), 1, "the row stays");
         due(x.row(0, 3, 60), 1);
         due(x.element(0, 59), 0, "0 at first");
+        x.row(1, 3, 1);
+        x.put(1, 0, 9);
+        x.row(0, 3, 60);
+        due(x.element(1, 0), 9, "another shelf stays");
         due(x.row(5, 4, 1), 1);
         due(x.element(5, 0), 0);
     }
