@@ -1317,7 +1317,7 @@ public final class PromisesTest {
         about = "promise 38"; promise38();
         about = "promise 39"; promise39();
         about = "promise 40"; promise40();
-        System.out.println(asked + " answers, " + wrong + " not as due");
+        System.out.println((asked - wrong) + " passed, " + wrong + " failed");
         if (wrong != 0) {
             System.exit(1);
         }
