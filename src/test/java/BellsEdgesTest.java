@@ -44,13 +44,12 @@ public final class BellsEdgesTest {
         Edges.edge(1, "no bodies, no trace", "count(5) = 0  count(6) = 0  act(0, 0, 5) = 0  trace(0) = BAD  keep(0, 0) = BAD  body(0) = 0");
         Edges.edge(1, "six shelves hold nothing", each(0, 5, s -> "put(" + s + ", 0, 1) = -11  element(" + s + ", 0) = LMIN  taken(" + s + ", 0) = -11  shift(" + s + ", 0, 0, 0, 0) = -11"));
         Edges.edge(1, "no row of a night, nothing told", "begins(0) = 4095  begins(1) = NOT  which() = 4095  night(1) = 1");
-        Edges.edge(1, "the constants", constantsRun());
+        Edges.holds(1, "the constants", AnyTwoBells.BAD == -1 && AnyTwoBells.NOT == -2 && AnyTwoBells.FULL == -3
+            && AnyTwoBells.STATE == -5 && AnyTwoBells.VOID == -2000000000);
+        Edges.holds(1, "new though another one was used", newBesideAnother());
     }
 
-    /** The constants stand in the class itself; a run can only ask its calls, so they are looked at here. */
-    private static String constantsRun() {
-        boolean so = AnyTwoBells.BAD == -1 && AnyTwoBells.NOT == -2 && AnyTwoBells.FULL == -3 && AnyTwoBells.STATE == -5
-            && AnyTwoBells.VOID == -2000000000;
+    private static boolean newBesideAnother() {
         AnyTwoBells one = new AnyTwoBells();
         one.bell(3, 0);
         one.strike(0, 3);
@@ -60,9 +59,8 @@ public final class BellsEdgesTest {
         one.law();
         one.mix(1, 1);
         AnyTwoBells other = new AnyTwoBells();
-        boolean apart = other.count(0) == 0 && other.count(4) == 0 && other.count(5) == 0 && other.of(1, 20) == 0
+        return other.count(0) == 0 && other.count(4) == 0 && other.count(5) == 0 && other.of(1, 20) == 0
             && other.put(0, 0, 1) == -11 && other.bell(3, 0) == 0 && other.of(0, 10) == 0 && other.lay() == 18;
-        return so && apart ? "count(0) = 0" : "count(0) = 9";
     }
 
     private static void bell() {
@@ -91,6 +89,8 @@ public final class BellsEdgesTest {
         Edges.edge(3, "more HEARD than bells", "most 1\nset(1, 6) = 2  count(2) = 6  set(1, 2) = 6");
         Edges.edge(3, "hours that fall away keep no strokes", "table 1234 5678\nset(0, 3) = 4  set(0, 4) = 3\nbell 0 is 1230\nbell 1 is 5670\nset(0, 2) = 4  set(0, 24) = 2\n"
             + "bell 0 is 120000000000000000000000\nbell 1 is 560000000000000000000000");
+        Edges.edge(3, "strokes of all six bells fall away, and no others", "hours 4\nmost 9 9 9 9 9 9\nlaw h+b+1\nlay()  set(0, 2) = 4  set(0, 4) = 2\n"
+            + each(0, 5, b -> "bell " + b + " is " + (b + 1) + (b + 2) + "00"));
         Edges.edge(3, "the last of 24 hours falls away", "table 111111111111111111111111\nset(0, 23) = 24  strokes(100) = 46  set(0, 24) = 23  of(230, 10) = 0  of(220, 10) = 1");
         Edges.edge(3, "hours that come strike 0", "table 11\nset(0, 4) = 2\nbell 0 is 1100");
         Edges.edge(3, "hours that fall away are not mixed any more", "hours 6\nmix(102, 1) mix(203, 1) mix(405, 1) mix(4, 1) mix(503, 1)\nset(0, 4) = 6  set(0, 6) = 4\n"
@@ -207,6 +207,8 @@ public final class BellsEdgesTest {
         Edges.edge(9, "no blanks", "feed(32) feed(104) law() = -100\nfeed(104) feed(32) law() = -101\nfault 1 h +b\nfault 2 h+ b\nfeed(104) feed(9) law() = -101\nfeed(104) feed(10) law() = -101\nfeed(104) feed(13) law() = -101\nfault 1 ( h)\nfeed(104) feed(0) law() = -101");
         Edges.edge(9, "the first fault counts", "fault 1 hx;;(\nfault 0 xxxx\nfault 3 h;b)((");
         Edges.edge(9, "a whole tape of 120 bytes", "tape 10\ntimes 59 feed(43) feed(104)\ncount(3) = 120  law() = 1");
+        Edges.edge(9, "120 bytes that are all worked out", "hours 2\nmost 15\ntape !0\ntimes 59 feed(43) feed(104)\ncount(3) = 120  law() = 1  lay() = 16\nbell 0 is 1f");
+        Edges.edge(9, "120 bytes that do not count", "hours 2\nmost 15\ntape h?-9\ntimes 58 feed(43) feed(104)\ncount(3) = 120  law() = 1  lay() = 15\nbell 0 is 0f");
         Edges.edge(9, "120 bytes that end too early", "times 60 feed(104) feed(43)\ncount(3) = 120  law() = -220");
         Edges.edge(9, "a fault in the last of 120 bytes", "feed(104)\ntimes 59 feed(43) feed(104)\nfeed(120) = 120  law() = -219");
         Edges.edge(9, "60 LINES", "feed(104)\ntimes 59 feed(59) feed(104)\ncount(3) = 119  law() = 1");
@@ -276,7 +278,7 @@ public final class BellsEdgesTest {
         Edges.edge(10, "+ and - wrap", one + both(least + "-1>0", 1) + both("(" + least + "-1)+1<0", 1) + both("-(" + least + ")<0", 1) + both("-(" + least + "-1)<0", 1) + both("-(" + least + "-1)-2>0", 1));
         Edges.edge(10, "< = > at like ones", one + both("3<3", 0) + both("3=3", 1) + both("3>3", 0) + both("2<3", 1) + both("2=3", 0) + both("2>3", 0) + both("4<3", 0) + both("4=3", 0) + both("4>3", 1) + both("-4<-3", 1) + both("-3>-4", 1));
         Edges.edge(10, "< > over the whole of ints", one + both(least + "<1", 1) + both("1>" + least, 1) + both(least + ">1", 0) + both(least + "<" + least + "-1", 1));
-        Edges.edge(10, "| & give 1, 0", one + both("4|0", 1) + both("0|4", 1) + both("4|2", 1) + both("0|0", 0) + both("4&2", 1) + both("4&0", 0) + both("0&4", 0) + both("0&0", 0) + both("-1&-2", 1) + both("-1|0", 1) + both("(2|2)+(2&2)", 2));
+        Edges.edge(10, "| & give 1, 0", one + both("4|0", 1) + both("0|4", 1) + both("4|2", 1) + both("0|0", 0) + both("4&2", 1) + both("4&0", 0) + both("0&4", 0) + both("0&0", 0) + both("-1&-2", 1) + both("-1&0", 0) + both("0&-1", 0) + both("-1|0", 1) + both("0|-1", 1) + both("(2|2)+(2&2)", 2));
         Edges.edge(10, "held within 0 .. MOST", one + both("15", 15) + both("16", 15) + both("9999", 15) + both("0", 0) + both("-1", 0) + both("-9999", 0) + both(least, 0) + both(least + "-1", 15));
         Edges.edge(10, "held within each bell's MOST", "hours 2\nmost 1 14\nlaw 14\nlay() = 30\nlaw 15\nlay() = 30\nlaw 13\nlay() = 28\nlaw 1\nlay() = 4\nlaw 2\nlay() = 6");
         Edges.edge(10, "the first LINE without a first E counts", one + both("7;8", 7) + both("0;8", 0) + both("0?9;8;7", 8));
@@ -324,6 +326,7 @@ public final class BellsEdgesTest {
         Edges.edge(12, "no bells", "sum(0, 12) = BAD  sum(0, 0) = BAD");
         Edges.edge(12, "what is left by MOST and 1", "table 0123 0000 0000\nline(1, 416) = 16  most(2, 6) = 15  sum(2, 1) = 15\nbell 2 is 4560");
         Edges.edge(12, "the greatest sum", "table ff ff 00\nsum(2, 1) = 28\nbell 2 is ee\nmost(2, 14)  sum(2, 1) = 0  most(2, 1)  sum(2, 1) = 0");
+        Edges.edge(12, "24 hours, six bells", "set(0, 24)\nmost 15 15 15 15 15 15\nlaw b<2?h%8;7\nlay()\nsum(5, 1) = 168\nbell 5 is 02468ace02468ace02468ace");
         Edges.edge(12, "this bell alone", three + "sum(2, 1) = 36\nbell 0 is 1234\nbell 1 is 5678\nbell 3 is 0000");
         Edges.edge(12, "it forgets changes, undone ones too", "table 00 00 00\nstrike(0, 1)  strike(1, 2)  undo() = 1\nsum(2, 1) = 1\ncount(4) = 0  undo() = STATE  redo() = STATE  of(0, 10) = 1");
         Edges.edge(12, "a refused one forgets none", "table 00 00 00\nstrike(0, 1)  strike(1, 2)  undo() = 1\nsum(2, 2) = BAD  sum(3, 1) = BAD\nredo() = 0  undo() = 1");

@@ -14,12 +14,20 @@ final class Edges {
 
     /** A boundary of a promise, by the document's words. */
     static void edge(int promise, String what, String text) {
+        note(promise, what, wrongIn(Run.of(text)));
+    }
+
+    /** A boundary that no run of calls can show. */
+    static void holds(int promise, String what, boolean so) {
+        note(promise, what, so ? "" : "it is not so");
+    }
+
+    private static void note(int promise, String what, String wrong) {
         promises.add(promise);
         String name = "promise " + promise + ": " + what;
         if (!names.add(name)) {
             throw new IllegalArgumentException("told twice: " + name);
         }
-        String wrong = wrongIn(Run.of(text));
         if (wrong.isEmpty()) {
             passed++;
         } else {
@@ -62,8 +70,8 @@ final class Edges {
         for (int k = 0; k < run.steps.size(); k++) {
             Run.Step step = run.steps.get(k);
             // what was answered well by a call that only asks need not be looked at again for each number
-            boolean refused = step.asked && step.due < 0;
-            if (Twins.mustChangeNothing(step) && (asked.add(step.call) || refused)) {
+            boolean always = step.same || step.asked && step.due < 0;
+            if (Twins.mustChangeNothing(step) && (asked.add(step.call) || always)) {
                 String differs = Twins.difference(run.steps, k);
                 if (!differs.isEmpty()) {
                     return step + " should change nothing, but " + differs;

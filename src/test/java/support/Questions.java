@@ -46,7 +46,7 @@ final class Questions {
     }
 
     private static Run.Step question(String call, long... with) {
-        return new Run.Step(call, with, false, 0);
+        return new Run.Step(call, with, false, 0, false);
     }
 
     private static void each(List<Run.Step> all, String call, int below) {

@@ -20,6 +20,7 @@ import java.util.regex.Pattern;
  * bytes 0 1 2 3       a ROW on a SHELF (0), and what is put in; shorts, ints, longs, booleans likewise
  * shelf 0 is 1 2 3    its elements, and that there are no more
  * times 40 undo()     a call so often
+ * same mix(1, 0) = 0  calls that must change nothing, though they are not refused
  */
 final class Run {
     static final class Step {
@@ -27,12 +28,14 @@ final class Run {
         final long[] with;
         final boolean asked;
         final long due;
+        final boolean same;
 
-        Step(String call, long[] with, boolean asked, long due) {
+        Step(String call, long[] with, boolean asked, long due, boolean same) {
             this.call = call;
             this.with = with;
             this.asked = asked;
             this.due = due;
+            this.same = same;
         }
 
         @Override
@@ -69,7 +72,7 @@ final class Run {
 
     private void line(String line) {
         if (line.matches("\\w+\\(.*")) {
-            calls(line);
+            calls(line, false);
             return;
         }
         String[] words = line.split(" +");
@@ -92,6 +95,7 @@ final class Run {
             case "fault": faulty(rest); break;
             case "shelf": shelf(words); break;
             case "times": times((int) number(words[1]), rest.substring(rest.indexOf(' ') + 1)); break;
+            case "same": calls(rest, true); break;
             default: throw new IllegalArgumentException("no such line: " + line);
         }
     }
@@ -107,14 +111,14 @@ final class Run {
     }
 
     private void ask(String call, long... with) {
-        steps.add(new Step(call, with, false, 0));
+        steps.add(new Step(call, with, false, 0, false));
     }
 
     private void due(long due, String call, long... with) {
-        steps.add(new Step(call, with, true, due));
+        steps.add(new Step(call, with, true, due, false));
     }
 
-    private void calls(String line) {
+    private void calls(String line, boolean same) {
         Matcher each = CALL.matcher(line);
         int end = 0;
         while (each.find() && each.start() == end) {
@@ -127,7 +131,7 @@ final class Run {
                 throw new IllegalArgumentException("no such call: " + each.group());
             }
             boolean asked = each.group(3) != null;
-            steps.add(new Step(each.group(1), with, asked, asked ? number(each.group(3)) : 0));
+            steps.add(new Step(each.group(1), with, asked, asked ? number(each.group(3)) : 0, same));
             end = each.end();
         }
         if (!line.substring(end).isBlank()) {
@@ -137,7 +141,7 @@ final class Run {
 
     private void times(int often, String line) {
         for (int k = 0; k < often; k++) {
-            calls(line);
+            calls(line, false);
         }
     }
 

@@ -39,9 +39,9 @@ final class Twins {
         new Probe("bell(5, 5005)\nset(0, 24)", TABLE),
         new Probe("body(0)", Run.of("act(0, 3, 1) count(6) act(1, 3, 1) count(6) act(49, 3, 1) count(5)").steps));
 
-    /** Whether a call of a run is one that must change nothing: it only asks, is refused, or tells what is so already. */
+    /** Whether a call of a run must change nothing: the run says so, it only asks, is refused, or tells what is so already. */
     static boolean mustChangeNothing(Run.Step step) {
-        if (ONLY_ASKING.contains(step.call)) {
+        if (step.same || ONLY_ASKING.contains(step.call)) {
             return true;
         }
         if (!step.asked || step.call.equals("act") || step.call.equals("law")) {
