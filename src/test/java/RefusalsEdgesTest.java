@@ -50,7 +50,10 @@ public final class RefusalsEdgesTest {
     private static void bellsAndTable() {
         some(2, "bell(0, 0) = BAD  bell(16, 0) = BAD  bell(5, -1) = BAD  bell(5, 101) = BAD  bell(5, 100000) = BAD");
         some(3, "set(0, 1) = BAD  set(0, 25) = BAD  set(1, 0) = BAD  set(1, 7) = BAD  set(2, 5) = BAD  set(-1, 5) = BAD");
-        some(4, "strike(0, 11) = BAD  strike(1, 5) = BAD  strike(0, -1) = BAD  strike(3, 0) = BAD  strike(50, 0) = BAD  strike(-1, 0) = BAD");
+        some(4, """
+            strike(0, 11) = BAD  strike(1, 5) = BAD  strike(0, -1) = BAD  strike(3, 0) = BAD  strike(50, 0) = BAD
+            strike(-1, 0) = BAD
+            """);
         some(5, """
             strikes(6, 0, 0, 1) = BAD  strikes(-1, 0, 0, 1) = BAD  strikes(0, 0, 3, 1) = BAD  strikes(0, 0, -1, 1) = BAD
             strikes(0, 0, 0, 0) = BAD  strikes(0, 0, 0, 6) = BAD  strikes(1, 0, 0, 1) = -12  strikes(2, 0, 0, 1) = -12
@@ -58,11 +61,17 @@ public final class RefusalsEdgesTest {
             strikes(0, 4, 0, 1) = 0  strikes(0, -1, 0, 1) = 0
             """);
         some(6, "most(0, 0) = BAD  most(0, 16) = BAD  most(3, 9) = BAD  most(-1, 9) = BAD  most(0, 1) = BAD  most(2, 5) = BAD");
-        some(7, "mix(0, 1) = BAD  mix(101, 1) = BAD  mix(5, 1) = BAD  mix(500, 1) = BAD  mix(-1, 1) = BAD  mix(1, 2) = BAD  mix(1, -1) = BAD");
+        some(7, """
+            mix(0, 1) = BAD  mix(101, 1) = BAD  mix(5, 1) = BAD  mix(500, 1) = BAD  mix(-1, 1) = BAD  mix(1, 2) = BAD
+            mix(1, -1) = BAD
+            """);
         some(8, "feed(-1) = BAD  feed(256) = BAD");
         Edges.edge(9, "nothing on the tape, with something of everything there", SOME + "law() = 1\nsame law() = -100");
         Edges.edge(10, "no bells to lay", "tape h+2\nmix(1, 1)  body(0)  act(0, 3, 1)\nsame lay() = 0");
-        some(11, "line(0, 1) = BAD  line(0, 17) = BAD  line(0, -1) = BAD  line(0, 1000002) = BAD  line(3, 10016) = BAD  line(-1, 10016) = BAD");
+        some(11, """
+            line(0, 1) = BAD  line(0, 17) = BAD  line(0, -1) = BAD  line(0, 1000002) = BAD  line(3, 10016) = BAD
+            line(-1, 10016) = BAD
+            """);
         some(12, "sum(0, 11) = BAD  sum(0, 1) = BAD  sum(0, 13) = BAD  sum(3, 1) = BAD  sum(-1, 1) = BAD  sum(0, -12) = BAD");
         some(13, """
             of(3, 0) = BAD  of(3, 1) = BAD  of(3, 2) = BAD  of(-1, 0) = BAD  of(3, 10) = BAD  of(50, 10) = BAD  of(-1, 10) = BAD
@@ -84,11 +93,26 @@ public final class RefusalsEdgesTest {
         Edges.edge(21, "all do not", SOME + "line(0, 2)  line(1, 2)  line(2, 2)  kept() = NOT");
         some(22, "odds(-2, 0) = LMIN  odds(5, 0) = LMIN  odds(0, -1) = LMIN  odds(0, 2) = LMIN");
         some(23, "least(-2) = BAD  least(50) = BAD  least(3) = BAD  least(-1) = STATE  least(0) = STATE");
-        Edges.edge(23, "there is none, with something of everything there", "hours 3\nbell(1, 5)  strike(0, 1)  strike(10, 1)  undo()\ntape h\nleast(-1) = NOT  least(0) = NOT");
+        Edges.edge(23, "there is none, with something of everything there", """
+            hours 3
+            bell(1, 5)  strike(0, 1)  strike(10, 1)  undo()
+            tape h
+            least(-1) = NOT  least(0) = NOT
+            """);
         some(24, "greedy(-2) = BAD  greedy(50) = BAD  greedy(3) = BAD");
-        Edges.edge(24, "some hour has none, with something of everything there", "hours 3\nbell(1, 5)  strike(0, 1)  strike(10, 1)  undo()\ntape h\ngreedy(-1) = NOT  greedy(0) = NOT");
+        Edges.edge(24, "some hour has none, with something of everything there", """
+            hours 3
+            bell(1, 5)  strike(0, 1)  strike(10, 1)  undo()
+            tape h
+            greedy(-1) = NOT  greedy(0) = NOT
+            """);
         some(25, "alarm(3) = BAD  alarm(-1) = BAD");
-        Edges.edge(25, "there is none, with something of everything there", "hours 3\nbell(1, 5)  strike(0, 1)  strike(10, 1)  undo()\ntape h\nalarm(0) = NOT");
+        Edges.edge(25, "there is none, with something of everything there", """
+            hours 3
+            bell(1, 5)  strike(0, 1)  strike(10, 1)  undo()
+            tape h
+            alarm(0) = NOT
+            """);
         some(26, "night(-1) = BAD  night(2) = BAD");
         some(27, "begins(-1) = BAD  begins(2) = BAD");
         Edges.edge(28, "no bells", "tape h+2\nmix(1, 1)  body(0)  act(0, 3, 1)\nrest() = 0");
@@ -98,10 +122,14 @@ public final class RefusalsEdgesTest {
 
     private static void shelves() {
         some(31, "body(-1) = BAD  body(8) = BAD");
-        Edges.edge(32, "no such TABLE, ACT, and no TRACE already", SOME + "act(3, 0, 1) = 0\nsame act(3, 0, 1) = 0  act(-1, 0, 1) = 0  act(0, 4, 1) = 0  act(0, -1, 1) = 0");
+        Edges.edge(32, "no such TABLE, ACT, and no TRACE already", SOME
+            + "act(3, 0, 1) = 0\nsame act(3, 0, 1) = 0  act(-1, 0, 1) = 0  act(0, 4, 1) = 0  act(0, -1, 1) = 0");
         some(33, "trace(-1) = BAD  trace(11) = BAD  trace(24) = BAD");
         some(34, "keep(6, 0) = BAD  keep(-1, 0) = BAD  keep(0, 3) = BAD  keep(0, -2) = BAD  keep(4, 3) = BAD");
-        some(35, "row(6, 0, 1) = BAD  row(-1, 0, 1) = BAD  row(0, 5, 1) = BAD  row(0, -1, 1) = BAD  row(1, 2, 61) = BAD  row(1, 2, -1) = -14  row(4, 0, -1) = -14  row(4, 0, 61) = BAD");
+        some(35, """
+            row(6, 0, 1) = BAD  row(-1, 0, 1) = BAD  row(0, 5, 1) = BAD  row(0, -1, 1) = BAD  row(1, 2, 61) = BAD
+            row(1, 2, -1) = -14  row(4, 0, -1) = -14  row(4, 0, 61) = BAD
+            """);
         some(36, """
             put(6, 0, 9) = BAD  put(-1, 0, 9) = BAD  put(5, 0, 9) = -11  put(4, 0, 9) = -12  put(0, 4, 9) = -13  put(0, -1, 9) = -13
             put(1, 3, 9) = -13  put(2, 3, 9) = -13  put(3, 2, 0) = -13
@@ -113,7 +141,10 @@ public final class RefusalsEdgesTest {
             shift(0, 0, 0, 1, 4) = -13  shift(0, 1, 0, 0, 4) = -13  shift(0, -1, 0, 0, 1) = -13  shift(0, 0, 0, -1, 1) = -13
             shift(0, 0, 0, 1, -1) = -13
             """);
-        some(39, "taken(6, 0) = BAD  taken(4, 8) = BAD  taken(4, -1) = BAD  taken(5, 0) = -11  taken(0, 0) = -12  taken(4, 1) = -12");
+        some(39, """
+            taken(6, 0) = BAD  taken(4, 8) = BAD  taken(4, -1) = BAD  taken(5, 0) = -11  taken(0, 0) = -12
+            taken(4, 1) = -12
+            """);
         some(40, "count(-1) = BAD  count(7) = BAD");
     }
 
@@ -138,8 +169,13 @@ public final class RefusalsEdgesTest {
         Edges.edge(34, "nothing instead of nothing, a TABLE instead of the same", SOME + "same keep(5, -1) = 1  keep(4, 1) = 1");
         Edges.edge(35, "a row instead of one of the same kind", SOME + "row(2, 3, 5) = 1\nsame row(2, 3, 5) = 1");
         Edges.edge(36, "the same element", SOME + "same put(0, 1, 2) = 1  put(3, 0, 5) = 1  put(2, 0, LMIN) = 1  put(0, 3, -56) = 1");
-        Edges.edge(38, "none, or onto themselves", SOME + "same shift(0, 0, 0, 0, 0) = 0  shift(0, 4, 0, 4, 0) = 0  shift(1, 0, 1, 0, 3) = 3");
-        Edges.edge(14, "questions", SOME + "tells(0) tells(3) gap(0) gap(1) = 2  bears() alone(0, -1) strokes(0) strokes(104) kept() odds(0, 0) odds(-1, 1) begins(0) begins(1) rest() of(0, 10)");
+        Edges.edge(38, "none, or onto themselves", SOME + """
+            same shift(0, 0, 0, 0, 0) = 0  shift(0, 4, 0, 4, 0) = 0  shift(1, 0, 1, 0, 3) = 3
+            """);
+        Edges.edge(14, "questions", SOME + """
+            tells(0)  tells(3)  gap(0)  gap(1) = 2  bears()  alone(0, -1)  strokes(0)  strokes(104)  kept()  odds(0, 0)
+            odds(-1, 1)  begins(0)  begins(1)  rest()  of(0, 10)
+            """);
         Edges.edge(23, "found tables are not THE TABLE", SOME + "greedy(-1) greedy(42) alarm(0) alarm(2) count(0) = 3");
         Edges.edge(37, "questions", SOME + "element(0, 0) taken(4, 0) trace(0) count(0) = 3  count(6)");
     }

@@ -1,6 +1,7 @@
 import java.util.HashSet;
 import java.util.Set;
 import java.util.TreeSet;
+import java.util.function.IntFunction;
 
 /**
  * Tests told as runs of calls (see Run): each answer as it is due, by AnyTwoBells and by the naive bells, no more calls
@@ -34,6 +35,15 @@ final class Edges {
             failed++;
             System.out.println(name + ": " + wrong);
         }
+    }
+
+    /** Lines of a run, told for each number. */
+    static String each(int from, int to, IntFunction<String> told) {
+        StringBuilder all = new StringBuilder();
+        for (int k = from; k <= to; k++) {
+            all.append(told.apply(k)).append('\n');
+        }
+        return all.toString();
     }
 
     private static String wrongIn(Run run) {
