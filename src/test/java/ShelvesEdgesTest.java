@@ -6,6 +6,7 @@ public final class ShelvesEdgesTest {
         body();
         act();
         acts();
+        actsThatWrap();
         trace();
         keep();
         row();
@@ -130,6 +131,74 @@ public final class ShelvesEdgesTest {
         Edges.edge(32, "CRACKED sounds", fourth(7, 1, -25, 80, 41, 30, 10, 1, 40, 11));
         Edges.edge(32, "CRACKED rests", fourth(7, 2, 27, 40, 11));
         Edges.edge(32, "CRACKED tells", fourth(7, 3, -32, 81, 2, 80, 41, 30, 10, 1, 40, 11, 40, 11));
+    }
+
+    /** All acts of all kinds with ints that wrap. */
+    private static void actsThatWrap() {
+        Edges.edge(32, "TABLE with any x", """
+            body(7)  body(6)  body(5)  body(0) = 3
+            act(3, 0, -1) = 2  act(3, 1, -1) = 4  act(3, 2, -1) = -4  act(3, 3, -1) = 2
+            act(3, 0, 1000000007) = 1000000010  act(3, 1, 1000000007) = 2000000020  act(3, 2, 1000000007) = 1000000004
+            act(3, 3, 1000000007) = 2000000018
+            act(3, 0, MAX) = -2147483646  act(3, 1, MAX) = 4  act(3, 2, MAX) = 2147483644  act(3, 3, MAX) = 2
+            act(3, 0, MIN) = -2147483645  act(3, 1, MIN) = 6  act(3, 2, MIN) = -2147483645  act(3, 3, MIN) = 4
+            """);
+        Edges.edge(32, "PLAIN with any x", """
+            body(7)  body(6)  body(5)  body(1) = 3
+            act(3, 0, -1) = 5  act(3, 1, -1) = 10  act(3, 2, -1) = -4  act(3, 3, -1) = 8
+            act(3, 0, 1000000007) = 1000000013  act(3, 1, 1000000007) = 2000000026  act(3, 2, 1000000007) = 1000000004
+            act(3, 3, 1000000007) = 2000000024
+            act(3, 0, MAX) = -2147483643  act(3, 1, MAX) = 10  act(3, 2, MAX) = 2147483644  act(3, 3, MAX) = 8
+            act(3, 0, MIN) = -2147483642  act(3, 1, MIN) = 12  act(3, 2, MIN) = -2147483645  act(3, 3, MIN) = 10
+            """);
+        Edges.edge(32, "SUM with any x", """
+            body(7)  body(6)  body(5)  body(2) = 3
+            act(3, 0, -1) = 2  act(3, 1, -1) = -4  act(3, 2, -1) = -4  act(3, 3, -1) = -6
+            act(3, 0, 1000000007) = 1000000010  act(3, 1, 1000000007) = -2000000020  act(3, 2, 1000000007) = 1000000004
+            act(3, 3, 1000000007) = -2000000022
+            act(3, 0, MAX) = -2147483646  act(3, 1, MAX) = -4  act(3, 2, MAX) = 2147483644  act(3, 3, MAX) = -6
+            act(3, 0, MIN) = -2147483645  act(3, 1, MIN) = -6  act(3, 2, MIN) = -2147483645  act(3, 3, MIN) = -8
+            """);
+        Edges.edge(32, "LINE with any x", """
+            body(7)  body(6)  body(5)  body(3) = 3
+            act(3, 0, -1) = 2  act(3, 1, -1) = -6  act(3, 2, -1) = -12  act(3, 3, -1) = -12
+            act(3, 0, 1000000007) = 1000000010  act(3, 1, 1000000007) = -2000000022  act(3, 2, 1000000007) = -1294967284
+            act(3, 3, 1000000007) = -2000000028
+            act(3, 0, MAX) = -2147483646  act(3, 1, MAX) = -6  act(3, 2, MAX) = 2147483636  act(3, 3, MAX) = -12
+            act(3, 0, MIN) = -2147483645  act(3, 1, MIN) = -8  act(3, 2, MIN) = -2147483639  act(3, 3, MIN) = -14
+            """);
+        Edges.edge(32, "ZERO with any x", """
+            body(7)  body(6)  body(5)  body(4) = 3
+            act(3, 0, -1) = 2  act(3, 1, -1) = 4  act(3, 2, -1) = -9  act(3, 3, -1) = 7
+            act(3, 0, 1000000007) = 1000000010  act(3, 1, 1000000007) = 2000000020  act(3, 2, 1000000007) = 999999999
+            act(3, 3, 1000000007) = 2000000023
+            act(3, 0, MAX) = -2147483646  act(3, 1, MAX) = 4  act(3, 2, MAX) = 2147483639  act(3, 3, MAX) = 7
+            act(3, 0, MIN) = -2147483645  act(3, 1, MIN) = 6  act(3, 2, MIN) = 2147483646  act(3, 3, MIN) = 9
+            """);
+        Edges.edge(32, "NIGHT with any x", """
+            body(7)  body(6)  body(5)  body(5) = 3
+            act(3, 0, -1) = 5  act(3, 1, -1) = 10  act(3, 2, -1) = -4  act(3, 3, -1) = 13
+            act(3, 0, 1000000007) = 1000000013  act(3, 1, 1000000007) = 2000000026  act(3, 2, 1000000007) = 1000000004
+            act(3, 3, 1000000007) = 2000000029
+            act(3, 0, MAX) = -2147483643  act(3, 1, MAX) = 10  act(3, 2, MAX) = 2147483644  act(3, 3, MAX) = 13
+            act(3, 0, MIN) = -2147483642  act(3, 1, MIN) = 12  act(3, 2, MIN) = -2147483645  act(3, 3, MIN) = 15
+            """);
+        Edges.edge(32, "TOLD with any x", """
+            body(7)  body(6)  body(5)  body(6) = 3
+            act(3, 0, -1) = 4  act(3, 1, -1) = 8  act(3, 2, -1) = -4  act(3, 3, -1) = 6
+            act(3, 0, 1000000007) = 2000000020  act(3, 1, 1000000007) = -294967256  act(3, 2, 1000000007) = 1000000004
+            act(3, 3, 1000000007) = -294967258
+            act(3, 0, MAX) = 4  act(3, 1, MAX) = 8  act(3, 2, MAX) = 2147483644  act(3, 3, MAX) = 6
+            act(3, 0, MIN) = 6  act(3, 1, MIN) = 12  act(3, 2, MIN) = -2147483645  act(3, 3, MIN) = 10
+            """);
+        Edges.edge(32, "CRACKED with any x", """
+            body(7)  body(6)  body(5)  body(7) = 3
+            act(3, 0, -1) = 2  act(3, 1, -1) = -3  act(3, 2, -1) = -12  act(3, 3, -1) = -10
+            act(3, 0, 1000000007) = 1000000010  act(3, 1, 1000000007) = -2000000019  act(3, 2, 1000000007) = -1294967284
+            act(3, 3, 1000000007) = -2000000026
+            act(3, 0, MAX) = -2147483646  act(3, 1, MAX) = -3  act(3, 2, MAX) = 2147483636  act(3, 3, MAX) = -10
+            act(3, 0, MIN) = -2147483645  act(3, 1, MIN) = -5  act(3, 2, MIN) = -2147483639  act(3, 3, MIN) = -12
+            """);
     }
 
     private static void trace() {
@@ -330,7 +399,7 @@ public final class ShelvesEdgesTest {
         StringBuilder unlike = new StringBuilder();
         for (int one = 0; one < 5; one++) {
             for (int other = 0; other < 5; other++) {
-                unlike.append("shift(").append(one).append(", 0, ").append(other).append(", 0, 1) = ").append(one == other ? 1 : -12).append('\n');
+                unlike.append("shift(" + one + ", 0, " + other + ", 0, 1) = " + (one == other ? 1 : -12) + "\n");
             }
         }
         Edges.edge(38, "unlike sorts", Edges.each(0, 4, k -> SORTS[k] + " " + k + " 1 1") + unlike);

@@ -200,6 +200,12 @@ public final class StrokesEdgesTest {
             most 9 3
             least(-1) = 2  most(0, 13)  most(1, 2)  least(-1) = STATE
             """);
+        Edges.edge(23, "so many tables that ints wrap", """
+            hours 4
+            most 15 15
+            least(-1) = STATE  set(0, 2)  least(-1) = 1  bell(15, 0)  least(-1) = STATE  set(0, 3)  least(-1) = STATE
+            set(0, 4)  least(-1) = STATE
+            """);
         Edges.edge(23, "BAD ahead of STATE", "least(0) = BAD\nmost 15 15\nleast(2) = BAD  least(120) = BAD  least(0) = STATE");
         Edges.edge(23, "there is none", "hours 3\nmost 1\nleast(-1) = NOT  least(0) = NOT  least(1) = BAD");
         Edges.edge(23, "the last table is the only one", "hours 2\nmost 1\nleast(-1) = 1  least(0) = 0  least(10) = 1");
