@@ -1,14 +1,9 @@
 /** Calls that are refused, or tell what is so already, on an object that holds something of everything: nothing changes. */
 public final class RefusalsEdgesTest {
-    /** Five hours, three bells, a law, changes to be undone and done again, a night, a row and a tape just begun, shelves. */
-    private static final String SOME = """
-        set(0, 5)
-        bell(9, 2010)  bell(4, 1020)  bell(15, 3005)
-        law q+h+b
-        lay()  most(0, 10)  strike(0, 3)  strike(11, 2)  strike(42, 9)  strike(21, 1)  undo()  undo()
+    /** What stands beside the bells: mixed hours, a law, a tape just begun, bodies, a trace, shelves. */
+    private static final String BESIDE = """
         mix(3, 1)  mix(102, 1)
-        heardrow -1 4
-        told 1 -1
+        law q+h+b
         tape 2+h
         body(0)  body(7)  body(3)  act(1, 3, 5)
         bytes 0 1 2 3 200
@@ -17,20 +12,50 @@ public final class RefusalsEdgesTest {
         booleans 3 1 0
         keep(4, 1)
         """;
+    /** Five hours, three bells, changes to be undone and done again, a night, a row just begun, and what stands beside. */
+    private static final String SOME = """
+        set(0, 5)
+        bell(9, 2010)  bell(4, 1020)  bell(15, 3005)
+        law q+h+b
+        lay()  most(0, 10)  strike(0, 3)  strike(11, 2)  strike(42, 9)  strike(21, 1)  undo()  undo()
+        heardrow -1 4
+        told 1 -1
+        """ + BESIDE;
+    private static final String NO_BELLS = "set(0, 5)\nnight(1)  night(1)\n" + BESIDE;
+    /** Four hours by two bells of one stroke, all of them heard: all rows are some hour's. */
+    private static final String ALL_ROWS = """
+        set(0, 4)
+        bell(1, 2010)  bell(1, 1020)
+        strike(11, 1)  strike(20, 1)  strike(30, 1)  strike(31, 1)  strike(1, 1)  strike(0, 1)  undo()  undo()
+        heardrow 1
+        told 1
+        """ + BESIDE;
+    /** Four hours by a bell of one stroke, which tells none of hours 0 and 1. */
+    private static final String NO_TABLE = """
+        set(0, 4)
+        bell(1, 2010)
+        strike(0, 1)  strike(10, 1)  strike(30, 1)  undo()
+        night(1)
+        told 1
+        """ + BESIDE;
     /** As much as there may be of all. */
     private static final String FULL = """
         set(0, 24)  set(1, 6)
         bell(15, 99100)  bell(15, 0)  bell(15, 1001)  bell(15, 2002)  bell(15, 3003)  bell(15, 4004)
-        lay()  undo()
+        law q+h+b
+        lay()  undo()  mix(3, 1)
         times 6 hear(-1)
         times 11 night(1)
-        strike(0, 15)  strike(1, 14)  most(5, 15)  strike(2, 13)  strike(235, 1)  undo()
+        strike(0, 15)  strike(1, 14)  strike(2, 13)  most(1, 14)  strike(235, 1)  undo()
+        told -1 1
         night(1)
         told 15 -1 -1 -1 -1 -1
         times 120 feed(104)
         times 50 body(7)
         act(49, 3, 5)
         row(0, 0, 60)  put(0, 59, 7)
+        ints 1 5 6 7
+        keep(4, 49)
         """;
 
     public static void main(String[] args) {
@@ -67,7 +92,7 @@ public final class RefusalsEdgesTest {
             """);
         some(8, "feed(-1) = BAD  feed(256) = BAD");
         Edges.edge(9, "nothing on the tape, with something of everything there", SOME + "law() = 1\nsame law() = -100");
-        Edges.edge(10, "no bells to lay", "tape h+2\nmix(1, 1)  body(0)  act(0, 3, 1)\nsame lay() = 0");
+        Edges.edge(10, "no bells to lay", NO_BELLS + "same lay() = 0");
         some(11, """
             line(0, 1) = BAD  line(0, 17) = BAD  line(0, -1) = BAD  line(0, 1000002) = BAD  line(3, 10016) = BAD
             line(-1, 10016) = BAD
@@ -81,41 +106,35 @@ public final class RefusalsEdgesTest {
 
     private static void telling() {
         some(14, "tells(-1) = BAD  tells(4) = BAD");
+        Edges.edge(14, "no bells", NO_BELLS + "tells(0) = STATE  tells(1) = STATE  tells(2) = STATE  tells(3) = STATE");
+        Edges.edge(14, "no fault", ALL_ROWS + "tells(3) = 1  tells(0) = NOT  tells(1) = NOT  tells(2) = NOT");
         some(15, "gap(-1) = BAD  gap(2) = BAD  gap(1) = 2");
-        Edges.edge(16, "no bells", "tape h+2\nmix(1, 1)  body(0)  act(0, 3, 1)\nbears() = STATE");
+        Edges.edge(15, "no bells", NO_BELLS + "gap(0) = STATE  gap(1) = STATE");
+        Edges.edge(15, "none would do, and all mixed", NO_TABLE + "gap(1) = NOT\n"
+            + "mix(1, 1)  mix(2, 1)  mix(103, 1)  mix(203, 1)  gap(0) = NOT  gap(1) = NOT");
+        Edges.edge(16, "no bells", NO_BELLS + "bears() = STATE");
         some(17, "hear(-2) = BAD  hear(16) = BAD");
+        Edges.edge(17, "no bells", NO_BELLS + "hear(0) = FULL  hear(16) = BAD");
         Edges.edge(18, "nothing was told", SOME + "which()\nsame which() = 31");
         some(19, "alone(0, -2) = BAD  alone(0, 16) = BAD  alone(3, 0) = BAD  alone(-1, 0) = BAD");
     }
 
     private static void strokesAndOdds() {
         some(20, "strokes(5) = BAD  strokes(-1) = BAD  strokes(99) = BAD  strokes(105) = BAD");
-        Edges.edge(21, "all do not", SOME + "line(0, 2)  line(1, 2)  line(2, 2)  kept() = NOT");
+        Edges.edge(20, "no bells", NO_BELLS + "strokes(104) = STATE");
+        Edges.edge(21, "all do not", NO_TABLE + "kept() = NOT");
         some(22, "odds(-2, 0) = LMIN  odds(5, 0) = LMIN  odds(0, -1) = LMIN  odds(0, 2) = LMIN");
         some(23, "least(-2) = BAD  least(50) = BAD  least(3) = BAD  least(-1) = STATE  least(0) = STATE");
-        Edges.edge(23, "there is none, with something of everything there", """
-            hours 3
-            bell(1, 5)  strike(0, 1)  strike(10, 1)  undo()
-            tape h
-            least(-1) = NOT  least(0) = NOT
-            """);
+        Edges.edge(23, "no bells", NO_BELLS + "least(-1) = STATE  least(0) = BAD");
+        Edges.edge(23, "there is none", NO_TABLE + "mix(102, 0)  least(-1) = NOT  least(0) = NOT");
         some(24, "greedy(-2) = BAD  greedy(50) = BAD  greedy(3) = BAD");
-        Edges.edge(24, "some hour has none, with something of everything there", """
-            hours 3
-            bell(1, 5)  strike(0, 1)  strike(10, 1)  undo()
-            tape h
-            greedy(-1) = NOT  greedy(0) = NOT
-            """);
+        Edges.edge(24, "no bells", NO_BELLS + "greedy(-1) = STATE  greedy(0) = BAD");
+        Edges.edge(24, "some hour has none", NO_TABLE + "mix(102, 0)  greedy(-1) = NOT  greedy(0) = NOT");
         some(25, "alarm(3) = BAD  alarm(-1) = BAD");
-        Edges.edge(25, "there is none, with something of everything there", """
-            hours 3
-            bell(1, 5)  strike(0, 1)  strike(10, 1)  undo()
-            tape h
-            alarm(0) = NOT
-            """);
+        Edges.edge(25, "there is none", ALL_ROWS + "alarm(0) = NOT  alarm(1) = NOT");
         some(26, "night(-1) = BAD  night(2) = BAD");
         some(27, "begins(-1) = BAD  begins(2) = BAD");
-        Edges.edge(28, "no bells", "tape h+2\nmix(1, 1)  body(0)  act(0, 3, 1)\nrest() = 0");
+        Edges.edge(28, "no bells", NO_BELLS + "rest() = 0");
         Edges.edge(29, "none may be undone, some done again", SOME + "times 3 undo()\nundo() = STATE");
         Edges.edge(30, "none may be done again, some undone", SOME + "times 2 redo()\nredo() = STATE");
     }
@@ -176,7 +195,8 @@ public final class RefusalsEdgesTest {
             tells(0)  tells(3)  gap(0)  gap(1) = 2  bears()  alone(0, -1)  strokes(0)  strokes(104)  kept()  odds(0, 0)
             odds(-1, 1)  begins(0)  begins(1)  rest()  of(0, 10)
             """);
-        Edges.edge(23, "found tables are not THE TABLE", SOME + "greedy(-1) greedy(42) alarm(0) alarm(2) count(0) = 3");
+        Edges.edge(23, "the least table is not THE TABLE", ALL_ROWS + "least(-1) = 2  least(0)  of(0, 10) = 0  of(20, 10) = 1");
+        Edges.edge(24, "found tables are not THE TABLE", SOME + "greedy(-1) greedy(42) alarm(0) alarm(2) count(0) = 3");
         Edges.edge(37, "questions", SOME + "element(0, 0) taken(4, 0) trace(0) count(0) = 3  count(6)");
     }
 }

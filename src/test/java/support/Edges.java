@@ -80,8 +80,8 @@ final class Edges {
         for (int k = 0; k < run.steps.size(); k++) {
             Run.Step step = run.steps.get(k);
             // what was answered well by a call that only asks need not be looked at again for each number
-            boolean always = step.same || step.asked && step.due < 0;
-            if (Twins.mustChangeNothing(step) && (asked.add(step.call) || always)) {
+            boolean onceOnly = Twins.onlyAsks(step) && !(step.asked && step.due < 0);
+            if (Twins.mustChangeNothing(step) && (!onceOnly || asked.add(step.call))) {
                 String differs = Twins.difference(run.steps, k);
                 if (!differs.isEmpty()) {
                     return step + " should change nothing, but " + differs;

@@ -38,6 +38,8 @@ final class Questions {
             for (int i : new int[] {0, 1, 2, 3, 4, 5, 30, 58, 59}) {
                 all.add(question("element", shelf, i));
             }
+        }
+        for (int shelf = 0; shelf < 6; shelf++) {
             for (int kind = 0; kind < 8; kind++) {
                 all.add(question("taken", shelf, kind));
             }

@@ -1,4 +1,5 @@
 import java.util.ArrayList;
+import java.util.Collections;
 import java.util.List;
 import java.util.Set;
 
@@ -25,6 +26,7 @@ final class Twins {
     private static final List<Run.Step> TABLE = Questions.table();
     private static final List<Probe> PROBES = List.of(
         new Probe("", Questions.everything()),
+        new Probe("", backwards(Questions.everything())),
         new Probe("which()", TABLE.subList(0, 10)),
         new Probe("times 6 hear(-1)\nwhich()\ntimes 6 hear(0)\nwhich()", TABLE.subList(0, 10)),
         new Probe("night(1)", Run.of("begins(0) begins(1) which()").steps),
@@ -36,12 +38,13 @@ final class Twins {
         new Probe("times 41 undo()", TABLE),
         new Probe("redo()", TABLE),
         new Probe("times 41 redo()", TABLE),
-        new Probe("bell(5, 5005)\nset(0, 24)", TABLE),
+        new Probe("times 6 bell(15, 5005)\nset(0, 24)", TABLE),
+        new Probe("times 6 bell(15, 5005)\nlay()", TABLE),
         new Probe("body(0)", Run.of("act(0, 3, 1) count(6) act(1, 3, 1) count(6) act(49, 3, 1) count(5)").steps));
 
     /** Whether a call of a run must change nothing: the run says so, it only asks, is refused, or tells what is so already. */
     static boolean mustChangeNothing(Run.Step step) {
-        if (step.same || ONLY_ASKING.contains(step.call)) {
+        if (step.same || onlyAsks(step)) {
             return true;
         }
         if (!step.asked || step.call.equals("act") || step.call.equals("law")) {
@@ -50,6 +53,17 @@ final class Twins {
         boolean tellsTheSame = (step.call.equals("strike") || step.call.equals("most")) && step.with[1] == step.due;
         boolean noneCame = step.call.equals("strikes") && step.due == 0;
         return step.due < 0 || tellsTheSame || noneCame;
+    }
+
+    /** So that a question that changes something by mistake can't hide the same mistake of the call left out. */
+    private static List<Run.Step> backwards(List<Run.Step> questions) {
+        List<Run.Step> all = new ArrayList<>(questions);
+        Collections.reverse(all);
+        return all;
+    }
+
+    static boolean onlyAsks(Run.Step step) {
+        return ONLY_ASKING.contains(step.call);
     }
 
     /** What differs, if the call at that place is left out; "" if nothing does. */
